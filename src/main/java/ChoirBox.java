@@ -663,9 +663,9 @@ public final class ChoirBox {
         private int movePedal(int down) {
             pedalDown = down;
             int beginning = 0;
-            for (int i = 0; i < placed.size && down == 0; i++) {
+            for (int i = 0; i < placed.size; i++) {
                 int note = placed.noteAt(i);
-                if (at(notes.marked, note) == 1) {
+                if (down == 0 && at(notes.marked, note) == 1) {
                     notes.startDown(note, FADING);
                     beginning++;
                 }

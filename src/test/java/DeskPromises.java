@@ -219,6 +219,10 @@ public final class DeskPromises {
         due("22: what 2", x.alone(2), -1);
         due("22: none", x.alone(0), 0);
         due("22: none", x.alone(1), -4);
+        x.knock(3, 40, 1);
+        x.tick(1);
+        due("22: 1 is greater than 0", x.alone(0), 1);
+        due("22: 1 is most", x.alone(1), 3);
         x = singing();
         due("22: three", x.alone(0), 3);
         due("22: the bass", x.alone(1), 3);

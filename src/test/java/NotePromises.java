@@ -320,6 +320,12 @@ public final class NotePromises {
             due("5: is holding", x.noteOf(0, 3), 3);
             due("5: holds, part " + part, x.tick(100), rests[part]);
         }
+        int[] loudest = {609, 711, 812, 914};
+        for (int part = 0; part < 4; part++) {
+            ChoirBox x = new ChoirBox();
+            x.knock(part, 60, 127);
+            due("5: the rest of 1016, rounded down, part " + part, x.tick(100), loudest[part]);
+        }
     }
 
     private static void tickSinkAboveNewPeak() {
@@ -417,6 +423,8 @@ public final class NotePromises {
         ChoirBox x = new ChoirBox();
         due("6: what -1", x.set(-1, 1), -1);
         due("6: what 3", x.set(3, 1), -1);
+        due("6: what -1 to 0", x.set(-1, 0), -1);
+        due("6: what 3 to 0", x.set(3, 0), -1);
         for (int what = 0; what < 3; what++) {
             due("6: too little", x.set(what, least[what] - 1), -1);
             due("6: too much", x.set(what, most[what] + 1), -1);

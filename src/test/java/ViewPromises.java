@@ -25,6 +25,7 @@ public final class ViewPromises {
         freeIn();
         undo();
         undoRestoresAll();
+        undoFreesNumbers();
         errorsChangeNothing();
         viewsChangeNothing();
         System.out.println(wrong == 0 ? "ViewPromises: all answers are as due" : wrong + " answers are not as due");
@@ -385,6 +386,31 @@ public final class ViewPromises {
         x.undo();
         due("16: the formula before", x.mix(), 333);
         due("16: the text stays", x.count(12), 1);
+    }
+
+    private static void undoFreesNumbers() {
+        ChoirBox x = new ChoirBox();
+        x.pedal(1);
+        x.knock(0, 60, 100);
+        x.tick(2);
+        x.release(0, 60);
+        x.undo();
+        x.undo();
+        x.undo();
+        due("16: the number again", x.knock(1, 61, 10), 0);
+        due("16: a new level", x.noteOf(0, 4), 0);
+        due("16: no mark of the note that was undone", x.noteOf(0, 6), 0);
+        due("16: it can be let go", x.release(1, 61), 0);
+        x = new ChoirBox();
+        x.set(0, 1);
+        x.set(1, 2);
+        x.knock(2, 62, 50);
+        x.set(0, 2);
+        due("16: one comes in", x.knock(2, 63, 50), 1);
+        x.undo();
+        x.undo();
+        due("16: the number again", x.knock(2, 64, 50), 1);
+        due("16: the new one waits, though its number sang", x.noteOf(1, 3), 0);
     }
 
     private static void errorsChangeNothing() {
