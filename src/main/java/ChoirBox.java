@@ -453,8 +453,8 @@ public final class ChoirBox {
             return 8 * at(strength, note);
         }
 
-        private int rest(int note) {
-            return top(note) * at(HOLDS, at(part, note)) / 1000;
+        private int rest(int note, int top) {
+            return top * at(HOLDS, at(part, note)) / 1000;
         }
 
         private void startOver(int note, int newStrength) {
@@ -494,8 +494,9 @@ public final class ChoirBox {
         }
 
         private void sink(int note) {
-            int rest = rest(note);
-            int sunk = Math.max(rest, at(level, note) - divideUp(top(note) - rest, at(SINKS, at(part, note))));
+            int top = top(note);
+            int rest = rest(note, top);
+            int sunk = Math.max(rest, at(level, note) - divideUp(top - rest, at(SINKS, at(part, note))));
             put(level, note, sunk);
             if (sunk == rest) {
                 put(phase, note, HOLDING);

@@ -1,14 +1,5 @@
 /** Promises 17 to 22, by answers worked out by hand from the document. */
-public final class DeskPromises {
-    private static int wrong = 0;
-
-    private static void due(String call, int got, int want) {
-        if (got != want) {
-            wrong++;
-            System.out.println(call + " answered " + got + ", due is " + want);
-        }
-    }
-
+public final class DeskPromises extends Checks {
     public static void main(String[] args) {
         type();
         clearText();
@@ -19,17 +10,7 @@ public final class DeskPromises {
         mix();
         mixCaps();
         alone();
-        System.out.println(wrong == 0 ? "DeskPromises: all answers are as due" : wrong + " answers are not as due");
-        if (wrong != 0) {
-            System.exit(1);
-        }
-    }
-
-    private static void write(ChoirBox x, String text) {
-        x.clearText();
-        for (int i = 0; i < text.length(); i++) {
-            x.type(text.charAt(i));
-        }
+        finish("DeskPromises");
     }
 
     /** Soprano 608, bass 800, as alto 200 and tenor 0. */

@@ -1,14 +1,5 @@
 /** Promises 1 to 6, by answers worked out by hand from the document. */
-public final class NotePromises {
-    private static int wrong = 0;
-
-    private static void due(String call, int got, int want) {
-        if (got != want) {
-            wrong++;
-            System.out.println(call + " answered " + got + ", due is " + want);
-        }
-    }
-
+public final class NotePromises extends Checks {
     public static void main(String[] args) {
         newObject();
         knockRanges();
@@ -30,10 +21,7 @@ public final class NotePromises {
         tickOpensDoor();
         tickLimits();
         set();
-        System.out.println(wrong == 0 ? "NotePromises: all answers are as due" : wrong + " answers are not as due");
-        if (wrong != 0) {
-            System.exit(1);
-        }
+        finish("NotePromises");
     }
 
     private static void newObject() {

@@ -1,14 +1,5 @@
 /** Promises 7 to 16, by answers worked out by hand from the document. */
-public final class ViewPromises {
-    private static int wrong = 0;
-
-    private static void due(String call, int got, int want) {
-        if (got != want) {
-            wrong++;
-            System.out.println(call + " answered " + got + ", due is " + want);
-        }
-    }
-
+public final class ViewPromises extends Checks {
     public static void main(String[] args) {
         noteOf();
         noteOfAtTheDoor();
@@ -28,10 +19,7 @@ public final class ViewPromises {
         undoFreesNumbers();
         errorsChangeNothing();
         viewsChangeNothing();
-        System.out.println(wrong == 0 ? "ViewPromises: all answers are as due" : wrong + " answers are not as due");
-        if (wrong != 0) {
-            System.exit(1);
-        }
+        finish("ViewPromises");
     }
 
     private static void noteOf() {
