@@ -92,6 +92,9 @@ public final class BoundaryTicks extends Checks {
         due("least", x.count(5), 1);
         x.tick(100);
         due("most", x.count(5), 101);
+        due("no wrap-around of the time", x.tick(Integer.MAX_VALUE), -1);
+        due("no wrap-around of the time", x.tick(Integer.MAX_VALUE - 100), -1);
+        due("the time stays", x.count(5), 101);
     }
 
     private static ChoirBox busy() {
